@@ -354,8 +354,8 @@ public final class StenoChords {
         hash = mixItems(hash);
         hash = mixEntries(hash);
         hash = mixWhatWouldBe(hash);
-        hash = mix(hash, bitsOfDouble(readShare()));
-        hash = mix(hash, bitsOfFloat(meanKeys()));
+        hash = mix(hash, bitsOfShare(readShare()));
+        hash = mix(hash, bitsOfMean(meanKeys()));
         hash = mix(hash, snapshotTaken ? 1 : 0);
         hash = mix(hash, buffer.length());
         for (int index = 0; index < buffer.length(); index++) {
@@ -636,38 +636,31 @@ public final class StenoChords {
         return mix(mix(hash, clashes()), least());
     }
 
-    // The bits are worked out by hand, since the library's own function is not at hand here;
-    // every step is exact. Both shares are 0 or lie from 1/60 to 10, so few halvings do.
-    private static long bitsOfDouble(double value) {
-        if (value <= 0.0) {
+    // The bits are worked out by hand, since the library's own functions are not at hand here;
+    // every step is exact. A share is 0, or at least 1/60 and at most 1.
+    private static long bitsOfShare(double share) {
+        if (share <= 0.0) {
             return 0L;
         }
-        double rest = value;
+        double rest = share;
         long exponent = 1023;
-        for (int step = 0; step < 64 && rest >= 2.0; step++) {
-            rest = rest / 2.0;
-            exponent++;
-        }
-        for (int step = 0; step < 64 && rest < 1.0; step++) {
+        for (int step = 0; step < 6 && rest < 1.0; step++) {
             rest = rest * 2.0;
             exponent--;
         }
         return (exponent << 52) + (long) ((rest - 1.0) * (double) (1L << 52));
     }
 
-    private static int bitsOfFloat(float value) {
-        if (value <= 0.0f) {
+    // A mean is 0, or at least 1 and at most 10.
+    private static int bitsOfMean(float mean) {
+        if (mean <= 0.0f) {
             return 0;
         }
-        float rest = value;
+        float rest = mean;
         int exponent = 127;
-        for (int step = 0; step < 64 && rest >= 2.0f; step++) {
+        for (int step = 0; step < 3 && rest >= 2.0f; step++) {
             rest = rest / 2.0f;
             exponent++;
-        }
-        for (int step = 0; step < 64 && rest < 1.0f; step++) {
-            rest = rest * 2.0f;
-            exponent--;
         }
         return (exponent << 23) + (int) ((rest - 1.0f) * (float) (1 << 23));
     }
