@@ -105,7 +105,7 @@ public final class StenoChords {
         if (!buffer.tellStrokes(told) || !canBeRow(told)) {
             throw new IllegalArgumentException("the buffer is not 1 to 4 strokes");
         }
-        long row = packed(told, 0, told.length());
+        long row = told.packed(0, told.length());
         if (now.entries.isFull() || now.entries.hasBoth(row, word)) {
             throw new IllegalStateException("24 entries, or one with this row and word");
         }
@@ -260,7 +260,8 @@ public final class StenoChords {
         }
         otherPaper.become(now.paper);
         otherPaper.put(stroke);
-        otherReading.readAnew(otherPaper, now);
+        otherReading.dropFrom(0);
+        otherReading.readOn(otherPaper, now);
         int last = otherReading.size() - 1;
         switch (what) {
             case 0:
@@ -281,7 +282,7 @@ public final class StenoChords {
         if (place < 0) {
             return 0;
         }
-        return now.entries.longerThan(packed(now.paper, place, strokes), strokes);
+        return now.entries.longerThan(now.paper.packed(place, strokes), strokes);
     }
 
     /** Finds the entry with the shortest strokes for a word, NONE if there is none. */
@@ -392,19 +393,11 @@ public final class StenoChords {
     }
 
     private void readPaper() {
-        reading.readAnew(now.paper, now);
+        reading.dropFrom(0);
+        reading.readOn(now.paper, now);
     }
 
     // ---- rows of strokes, each packed into one long
-
-    // A stroke is never 0 in a row, so that rows of different lengths differ when packed.
-    private static long packed(Row strokes, int place, int length) {
-        long row = 0;
-        for (int index = 0; index < length; index++) {
-            row |= (long) strokes.at(place + index) << (KEYS * index);
-        }
-        return row;
-    }
 
     private static int strokeOf(long row, int index) {
         return (int) (row >> (KEYS * index)) & HIGHEST_STROKE;
@@ -430,7 +423,7 @@ public final class StenoChords {
     }
 
     private long rowOfItem(int item) {
-        return packed(now.paper, reading.placeAt(item), reading.lengthAt(item));
+        return now.paper.packed(reading.placeAt(item), reading.lengthAt(item));
     }
 
     // ---- settings, inside
@@ -575,7 +568,7 @@ public final class StenoChords {
         int longest = Math.min(now.longestRead, end);
         for (int length = 2; length <= longest; length++) {
             int place = end - length;
-            if (now.entries.leaderOf(packed(now.paper, place, length)) != NONE) {
+            if (now.entries.leaderOf(now.paper.packed(place, length)) != NONE) {
                 best = Math.min(best, fewest.at(place) + 1);
             }
         }
@@ -703,6 +696,21 @@ public final class StenoChords {
             }
         }
 
+        /**
+         * So many strokes from a place on, packed into one long; since no stroke is 0, rows of
+         * different lengths never make the same long.
+         */
+        long packed(int place, int strokes) {
+            long row = 0;
+            for (int index = 0; index < strokes; index++) {
+                int cell = place + index;
+                if (cell >= 0 && cell < length && cell < cells.length) {
+                    row |= (long) cells[cell] << (KEYS * index);
+                }
+            }
+            return row;
+        }
+
         void become(Row other) {
             length = 0;
             for (int place = 0; place < other.length; place++) {
@@ -755,10 +763,10 @@ public final class StenoChords {
         int leaderOf(long row) {
             int leader = NONE;
             int most = -1;
-            for (int entry = 0; entry < size; entry++) {
-                if (rowOf(entry) == row && picksOf(entry) > most) {
+            for (int entry = 0; entry < size && entry < MOST_ENTRIES; entry++) {
+                if (rows[entry] == row && picks[entry] > most) {
                     leader = entry;
-                    most = picksOf(entry);
+                    most = picks[entry];
                 }
             }
             return leader;
@@ -790,7 +798,7 @@ public final class StenoChords {
         /** How many strokes the longest row has that comes at a place; 0 if none comes there. */
         int longestAt(Row paper, int place, int longestRead) {
             for (int length = Math.min(longestRead, paper.length() - place); length > 0; length--) {
-                if (leaderOf(packed(paper, place, length)) != NONE) {
+                if (leaderOf(paper.packed(place, length)) != NONE) {
                     return length;
                 }
             }
@@ -940,11 +948,6 @@ public final class StenoChords {
             return found;
         }
 
-        void readAnew(Row paper, State state) {
-            dropFrom(0);
-            readOn(paper, state);
-        }
-
         /** Forgets the items that begin at a place or behind it. */
         void dropFrom(int place) {
             for (int item = size() - 1; item >= 0 && places.at(item) >= place; item--) {
@@ -959,18 +962,16 @@ public final class StenoChords {
             int last = size() - 1;
             int next = last < 0 ? 0 : places.at(last) + lengths.at(last);
             for (int place = next; place < paper.length(); place++) {
-                if (place >= next) {
-                    next = place + readItem(paper, place, state);
+                if (place == next) {
+                    int length = state.entries.longestAt(paper, place, state.longestRead);
+                    // A raw stroke is no row of an entry, so it finds no leading one.
+                    length = Math.max(1, length);
+                    places.put(place);
+                    lengths.put(length);
+                    leaders.put(state.entries.leaderOf(paper.packed(place, length)));
+                    next = place + length;
                 }
             }
-        }
-
-        private int readItem(Row paper, int place, State state) {
-            int length = Math.max(1, state.entries.longestAt(paper, place, state.longestRead));
-            places.put(place);
-            lengths.put(length);
-            leaders.put(state.entries.leaderOf(packed(paper, place, length)));
-            return length;
         }
     }
 

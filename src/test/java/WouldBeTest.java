@@ -224,8 +224,9 @@ public final class WouldBeTest {
 
     private static void digestWithAndWithoutEntry(StenoChords x, int stroke) {
         Check.same("digest of " + stroke + " strokes", x.digest(), digestByCalls(x, false, ""));
-        Check.define(x, "tr", 3);
-        Check.define(x, "tr", 4);
+        Check.define(x, "ta", 3);
+        Check.define(x, "ta", 4);
+        Check.sameDouble("one stroke is read", x.readShare(), 1.0 / stroke);
         Check.same("digest of one read", x.digest(), digestByCalls(x, false, ""));
         x.undo();
         x.undo();
