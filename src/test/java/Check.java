@@ -90,6 +90,14 @@ final class Check {
         judge(got.equals(want), what + " answered " + got + ", due is " + want);
     }
 
+    static int rightSoFar() {
+        return right;
+    }
+
+    static int wrongSoFar() {
+        return wrong;
+    }
+
     static void finish() {
         System.out.println(right + " answers right, " + wrong + " wrong");
         if (wrong != 0 || right == 0) {

@@ -6,40 +6,41 @@ import java.lang.reflect.Modifier;
 import java.nio.file.Files;
 import java.nio.file.Path;
 import java.util.ArrayList;
-import java.util.Arrays;
 import java.util.List;
 import java.util.TreeSet;
 import java.util.regex.Pattern;
 
-/** The public face, and what LANGUAGE.md forbids that a look at the source finds. */
+/** The public face as the document tells it, and what LANGUAGE.md forbids that a look at the source finds. */
 public final class FaceTest {
-    private static final String[] FACE = {
-        "int strike(int)", "int play()", "int tear()", "int pick(int,int)", "int define(int)",
-        "int remove(int)", "int set(int,int)", "int append(int)", "int clearBuffer()",
-        "int firstError()", "int keep()", "int goBack()", "int undo()", "int stroke(int)",
-        "int item(int,int)", "int entry(int,int)", "int count(int)", "int setting(int)",
-        "int ifStruck(int,int)", "int begun(int)", "int shortest(int)", "int behind(int,int)",
-        "int clashes()", "int least()", "double readShare()", "float meanKeys()", "long digest()"};
     private static final String[] FORBIDDEN = {
         "^\\s*(import|package)\\b", "->", "::", "\\bcatch\\b", "\\bfinally\\b", "Exact\\(",
         "\\b(Double|Float|Object|System|Thread)\\b", "\\bsynchronized\\b", "\\bassert\\b",
         "\\b(equals|hashCode|toString)\\("};
 
     public static void main(String[] args) throws Exception {
-        face();
+        face(args[1]);
         constants();
         language(args[0]);
         Check.finish();
     }
 
-    private static void face() {
+    private static void face(String document) throws Exception {
+        TreeSet<String> due = new TreeSet<>();
+        for (String line : Files.readAllLines(Path.of(document))) {
+            if (line.startsWith("    public ") && line.contains("(") && !line.contains("StenoChords(")) {
+                due.add(line.replaceAll("public |;", "").trim());
+            }
+        }
+        Check.same("the document's methods", due.size(), 27);
         TreeSet<String> found = new TreeSet<>();
         for (Method method : StenoChords.class.getDeclaredMethods()) {
             if (seen(method)) {
                 found.add(told(method));
             }
         }
-        Check.sameText("the public methods", found.toString(), new TreeSet<>(Arrays.asList(FACE)).toString());
+        due.removeIf(method -> found.remove(withoutNames(method)));
+        Check.sameText("methods that lack", due.toString(), "[]");
+        Check.sameText("methods too many", found.toString(), "[]");
         for (Constructor<?> made : StenoChords.class.getDeclaredConstructors()) {
             Check.holds("the public constructor", made.getParameterCount() == 0 && Modifier.isPublic(made.getModifiers()));
         }
@@ -63,11 +64,24 @@ public final class FaceTest {
 
     private static String told(Method method) {
         StringBuilder told = new StringBuilder(method.getReturnType().getName());
-        told.append(' ').append(method.getName()).append('(');
-        for (int i = 0; i < method.getParameterCount(); i++) {
-            told.append(i == 0 ? "" : ",").append(method.getParameterTypes()[i].getName());
+        told.append(' ').append(method.getName()).append('(').append(names(method.getParameterTypes())).append(')');
+        if (method.getExceptionTypes().length > 0) {
+            told.append(" throws ").append(names(method.getExceptionTypes()));
         }
-        return told.append(')').toString();
+        return told.toString();
+    }
+
+    private static String names(Class<?>[] types) {
+        StringBuilder names = new StringBuilder();
+        for (Class<?> type : types) {
+            names.append(names.length() == 0 ? "" : ", ").append(type.getSimpleName());
+        }
+        return names.toString();
+    }
+
+    /** A method as the document tells it, but without the names of its arguments. */
+    private static String withoutNames(String method) {
+        return method.replaceAll("\\bint (\\w+)(?=[,)])", "int");
     }
 
     private static void language(String source) throws Exception {

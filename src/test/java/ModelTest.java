@@ -1,8 +1,11 @@
 import java.util.function.Supplier;
 
-/** Long runs of calls, always the same ones; each answer is compared with the Model's. */
+/**
+ * Long runs of calls, always the same ones; each answer is compared with the Model's. No object is
+ * called more than 512 times, since what it answers then is free.
+ */
 public final class ModelTest {
-    private static final int RUNS = 90;
+    private static final int RUNS = 240;
     private static final int CALLS = 512;
 
     private static long seed;
@@ -22,7 +25,7 @@ public final class ModelTest {
     private final int keys;
     // Some runs fill the paper and the entries, others eat and remove a lot.
     private final int taste;
-    private int call;
+    private int calls;
 
     private ModelTest(int run) {
         this.run = run;
@@ -31,10 +34,10 @@ public final class ModelTest {
     }
 
     private void go() {
-        for (call = 0; call < CALLS; call++) {
+        while (calls < CALLS - 1) {
             step(below(100));
         }
-        answer("digest", x::digest, model::digest);
+        Check.same(told("the last digest"), x.digest(), model.digest());
     }
 
     private void step(int kind) {
@@ -129,8 +132,8 @@ public final class ModelTest {
         } else if (kind < 11) {
             answer("least", x::least, model::least);
         } else {
-            Check.sameDouble(told("readShare"), x.readShare(), model.readShare());
-            Check.sameFloat(told("meanKeys"), x.meanKeys(), model.meanKeys());
+            answer("readShare", () -> Double.doubleToLongBits(x.readShare()), () -> Double.doubleToLongBits(model.readShare()));
+            answer("meanKeys", () -> Float.floatToIntBits(x.meanKeys()), () -> Float.floatToIntBits(model.meanKeys()));
         }
     }
 
@@ -198,7 +201,11 @@ public final class ModelTest {
     }
 
     private void answer(String what, Supplier<? extends Number> got, Supplier<? extends Number> due) {
-        Check.sameText(told(what), answerOf(got), answerOf(due));
+        // The last call is kept for the digest.
+        if (calls < CALLS - 1) {
+            calls++;
+            Check.sameText(told(what), answerOf(got), answerOf(due));
+        }
     }
 
     private static String answerOf(Supplier<? extends Number> call) {
@@ -210,6 +217,6 @@ public final class ModelTest {
     }
 
     private String told(String what) {
-        return "run " + run + ", call " + call + ": " + what;
+        return "run " + run + ", call " + calls + ": " + what;
     }
 }

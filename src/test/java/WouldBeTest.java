@@ -13,7 +13,6 @@ public final class WouldBeTest {
         readShare();
         meanKeys();
         digest();
-        digestOfManyStates();
         digestTellsApart();
         Check.finish();
     }
@@ -202,84 +201,6 @@ public final class WouldBeTest {
         hash = 31 * hash + Double.doubleToLongBits(1.0);
         hash = 31 * (31 * (31 * hash));
         Check.same("digest of a new object", new StenoChords().digest(), hash);
-    }
-
-    private static void digestOfManyStates() {
-        StenoChords x = new StenoChords();
-        Check.same("digest of a new object, by its calls", x.digest(), digestByCalls(x, false, ""));
-        for (int stroke = 1; stroke <= 60; stroke++) {
-            x.strike(stroke * 17 % 1023 + 1);
-            digestWithAndWithoutEntry(x, stroke);
-        }
-        for (int keys = 10; keys > 0; keys--) {
-            StenoChords fresh = Check.withEntries("s", "t");
-            fresh.strike((1 << keys) - 1);
-            Check.same("digest of few keys", fresh.digest(), digestByCalls(fresh, false, ""));
-            fresh.strike(2);
-            fresh.keep();
-            Check.type(fresh, "st/k~");
-            Check.same("digest of more", fresh.digest(), digestByCalls(fresh, true, "st/k~"));
-        }
-    }
-
-    private static void digestWithAndWithoutEntry(StenoChords x, int stroke) {
-        Check.same("digest of " + stroke + " strokes", x.digest(), digestByCalls(x, false, ""));
-        Check.define(x, "ta", 3);
-        Check.define(x, "ta", 4);
-        Check.sameDouble("one stroke is read", x.readShare(), 1.0 / stroke);
-        Check.same("digest of one read", x.digest(), digestByCalls(x, false, ""));
-        x.undo();
-        x.undo();
-    }
-
-    /** The hash of the list that the document tells, by calls of the face alone. */
-    private static long digestByCalls(StenoChords x, boolean snapshot, String buffer) {
-        long hash = hashOfPaper(x, hashOfCounts(x));
-        for (int entry = 0; entry < x.count(4); entry++) {
-            for (int what = 0; what <= 9; what++) {
-                hash = 31 * hash + x.entry(entry, what);
-            }
-        }
-        for (int strokes = 1; strokes <= 3; strokes++) {
-            hash = 31 * hash + x.begun(strokes);
-        }
-        for (int what = 0; what <= 2; what++) {
-            hash = 31 * hash + x.ifStruck(1, what);
-        }
-        for (int word = 0; word <= 9; word++) {
-            hash = 31 * hash + x.shortest(word);
-        }
-        hash = 31 * hash + x.clashes();
-        hash = 31 * hash + x.least();
-        hash = 31 * hash + Double.doubleToLongBits(x.readShare());
-        hash = 31 * hash + Float.floatToIntBits(x.meanKeys());
-        hash = 31 * hash + (snapshot ? 1 : 0);
-        hash = 31 * hash + buffer.length();
-        for (char sign : buffer.toCharArray()) {
-            hash = 31 * hash + sign;
-        }
-        return hash;
-    }
-
-    private static long hashOfCounts(StenoChords x) {
-        long hash = 3643;
-        for (int what = 0; what <= 9; what++) {
-            hash = 31 * hash + x.count(what);
-        }
-        return 31 * (31 * hash + x.setting(0)) + x.setting(1);
-    }
-
-    private static long hashOfPaper(StenoChords x, long start) {
-        long hash = start;
-        for (int place = 0; place < x.count(0); place++) {
-            hash = 31 * hash + x.stroke(place);
-        }
-        for (int item = 0; item < x.count(2); item++) {
-            for (int what = 0; what <= 4; what++) {
-                hash = 31 * hash + x.item(item, what);
-            }
-        }
-        return hash;
     }
 
     private static void digestTellsApart() {
