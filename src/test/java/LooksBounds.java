@@ -293,6 +293,14 @@ final class LooksBounds {
         StenoChords y = Check.withEntries("s/t/k/p");
         y.set(1, 3);
         Check.same("alone, though it is passed over", y.entry(0, 7), 1);
+        StenoChords z = Make.fullEntries();
+        for (int entry = 0; entry < 24; entry++) {
+            Check.same("of each two the first one", z.entry(entry, 7), entry < 12 ? 1 : 0);
+        }
+        for (int entry = 0; entry < 12; entry++) {
+            z.remove(0);
+            Check.same("the second one, left alone", z.entry(11, 7), 1);
+        }
     }
 
     private static void leaderIs(StenoChords x, int leader) {

@@ -387,6 +387,7 @@ final class TermsBounds {
             Check.same("one more is eaten", x.count(6), row + 1);
         }
         eatenOfAFullPaper();
+        eatenAsItIsRead();
     }
 
     private static void eatenOfAFullPaper() {
@@ -402,6 +403,25 @@ final class TermsBounds {
         x.strike(0);
         Check.same("then whole items", x.count(0), 52);
         Check.same("eaten", x.count(6), 8);
+    }
+
+    private static void eatenAsItIsRead() {
+        for (int longest = 1; longest <= 4; longest++) {
+            StenoChords x = Check.withEntries("s", "s/s", "s/s/s", "s/s/s/s");
+            Check.play(x, "s/s/s/s/s/s/s/s/s/s/s/s");
+            x.set(0, 1);
+            x.set(1, longest);
+            x.strike(0);
+            Check.same("the last item by setting 1", x.count(6), longest);
+        }
+        StenoChords y = Check.withEntries("s", "s");
+        Check.play(y, "t/s/s");
+        y.set(0, 1);
+        y.remove(0);
+        y.remove(0);
+        Check.define(y, "t/s/s", 1);
+        y.strike(0);
+        Check.same("the last item by the entries that are left", y.count(6), 3);
     }
 
     private static void readAnew() {

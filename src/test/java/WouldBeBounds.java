@@ -51,8 +51,8 @@ final class WouldBeBounds {
     private static void behind(Document document) {
         document.under("Promise 23: behind");
         document.says("Tells how two entries are read one behind the other.", WouldBeBounds::everyPair);
-        document.says("- `first`: the number of an entry", WouldBeBounds::everyPair);
-        document.says("- `second`: the number of an entry", WouldBeBounds::everyPair);
+        document.says("- `first`: the number of an entry", WouldBeBounds::everyFirst);
+        document.says("- `second`: the number of an entry", WouldBeBounds::everySecond);
         document.says("Returns 0 if the strokes of the first one and then those of the second one, alone on a paper, "
                 + "are read as two items with their two rows, none of them raw;", WouldBeBounds::asTwoItems);
         document.says("1 if they are read as one item;", WouldBeBounds::asOneItem);
@@ -286,7 +286,11 @@ final class WouldBeBounds {
         Check.same("the fewest keys", x.shortest(5), 2);
         Check.define(x, "s/tkp", 5);
         Check.same("the least number", x.shortest(5), 2);
-        Check.define(x, "sk/tp", 5);
+        Check.define(x, "stk/tp", 5);
+        Check.same("more keys, behind it", x.shortest(5), 2);
+        Check.define(x, "sk/tp/d", 5);
+        Check.same("more strokes, behind it", x.shortest(5), 2);
+        x.remove(5);
         x.remove(2);
         Check.same("the least number, one gone", x.shortest(5), 2);
         Check.define(x, "d", 6);
@@ -338,6 +342,35 @@ final class WouldBeBounds {
             }
         }
         Trace.looks("behind", Make::full, x -> x.behind(0, 0));
+    }
+
+    /** 24 entries: s and t, which make one item, s/t, and 21 rivals of k between them. */
+    private static StenoChords oneOfMany(String first, String last) {
+        StenoChords x = Check.withEntries(first);
+        for (int word = 1; word <= 21; word++) {
+            Check.define(x, "k", word);
+        }
+        Check.define(x, "s/t", 22);
+        Check.define(x, last, 23);
+        return x;
+    }
+
+    private static void everyFirst() {
+        StenoChords x = oneOfMany("s", "t");
+        StenoChords y = oneOfMany("t", "s");
+        for (int first = 0; first <= 23; first++) {
+            Check.same(first + " ahead of t", x.behind(first, 23), first == 0 ? 1 : 0);
+            Check.same(first + " ahead of t, the first entry", y.behind(first, 0), first == 23 ? 1 : 0);
+        }
+    }
+
+    private static void everySecond() {
+        StenoChords x = oneOfMany("s", "t");
+        StenoChords y = oneOfMany("t", "s");
+        for (int second = 0; second <= 23; second++) {
+            Check.same(second + " behind s", x.behind(0, second), second == 23 ? 1 : 0);
+            Check.same(second + " behind s, the last entry", y.behind(23, second), second == 0 ? 1 : 0);
+        }
     }
 
     private static StenoChords withSetting(int longest) {
