@@ -301,6 +301,20 @@ final class LooksBounds {
             z.remove(0);
             Check.same("the second one, left alone", z.entry(11, 7), 1);
         }
+        StenoChords w = Check.withEntries(manyRows());
+        for (int entry = 0; entry < 24; entry++) {
+            Check.same("each of 24 rows alone", w.entry(entry, 7), 1);
+        }
+    }
+
+    /** 24 rows, no two the same. */
+    private static String[] manyRows() {
+        String[] letters = "s t k p a o e r".split(" ");
+        String[] rows = new String[24];
+        for (int row = 0; row < 24; row++) {
+            rows[row] = letters[row % 8] + "/s".repeat(row / 8);
+        }
+        return rows;
     }
 
     private static void leaderIs(StenoChords x, int leader) {
