@@ -8,19 +8,12 @@ import java.nio.file.Path;
 import java.util.ArrayList;
 import java.util.List;
 import java.util.TreeSet;
-import java.util.regex.Pattern;
 
-/** The public face as the document tells it, and what LANGUAGE.md forbids that a look at the source finds. */
+/** The public face as the document tells it. Wants the path of the document as its second argument. */
 public final class FaceTest {
-    private static final String[] FORBIDDEN = {
-        "^\\s*(import|package)\\b", "->", "::", "\\bcatch\\b", "\\bfinally\\b", "Exact\\(",
-        "\\b(Double|Float|Object|System|Thread)\\b", "\\bsynchronized\\b", "\\bassert\\b",
-        "\\b(equals|hashCode|toString)\\("};
-
     public static void main(String[] args) throws Exception {
         face(args[1]);
         constants();
-        language(args[0]);
         Check.finish();
     }
 
@@ -82,15 +75,5 @@ public final class FaceTest {
     /** A method as the document tells it, but without the names of its arguments. */
     private static String withoutNames(String method) {
         return method.replaceAll("\\bint (\\w+)(?=[,)])", "int");
-    }
-
-    private static void language(String source) throws Exception {
-        for (String line : Files.readAllLines(Path.of(source))) {
-            for (String forbidden : FORBIDDEN) {
-                if (!line.trim().startsWith("*") && !line.trim().startsWith("//")) {
-                    Check.holds("no " + forbidden + " in " + line, !Pattern.compile(forbidden).matcher(line).find());
-                }
-            }
-        }
     }
 }
